@@ -113,12 +113,11 @@ public final class EastNearly {
 
     public int tell(int church, int what, int v) {
         if (!churches.has(church)) return UNKNOWN;
-        switch (what) {
-            case 0: return v == NONE || isDate(v) ? churches.change(church, SAINT, v) : BAD;
-            case 1: return v == NONE || isDegree(v) ? churches.change(church, STREET, v) : BAD;
-            case 2: return v == NONE || isDegree(v) ? churches.change(church, OLD_WALL, v) : BAD;
-            default: return BAD;
-        }
+        if (!within(what, 0, OLD_WALL - SAINT)) return BAD;
+        // saint, street and old wall stand one behind the other in what is told of a church
+        int told = SAINT + what;
+        boolean fits = v == NONE || (told == SAINT ? isDate(v) : isDegree(v));
+        return fits ? churches.change(church, told, v) : BAD;
     }
 
     public int about(int church, int what) {

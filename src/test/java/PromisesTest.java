@@ -291,6 +291,7 @@ public final class PromisesTest {
         is("19 hit", e.hit(2, 0, 30), NONE);
         is("19 hit", e.hit(2, 0, -1), NONE);
         is("19 hit", e.hit(0, 0, 0), NONE);
+        is("19 hit, in the last of its years", withChurch(90, 0, 7, 9).hit(0, 0, 2), 9);
         e.church(0, 93, 3, 199, 199);
         is("18 off by just the slip", e.hits(0, 1), 1);
         is("18 off by more", e.hits(2, 1), 0);
@@ -336,6 +337,7 @@ public final class PromisesTest {
         is("43 unexplained", e.count(3), 0);
         e.church(0, 270, 9, 0, 60);
         is("43 unexplained", e.count(3), 1);
+        is("43 the first unexplained", withChurch(270, 0, 0, 0).count(3), 1);
     }
 
     private static void chances() {
@@ -415,6 +417,15 @@ public final class PromisesTest {
         is("25 east or needle", e.fewest(), 1 + 16);
         e.tell(2, 1, 90);
         is("26 look", e.look(), 2);
+        // six churches, each with a rule of its own
+        EastNearly f = withBook("000+30");
+        f.feast(91);
+        int[] lines = {90, 130, 120, 200, 210, 50};
+        for (int line : lines) f.church(0, line, 0, 0, 10);
+        f.tell(1, 0, 273);
+        f.tell(3, 1, 200);
+        f.tell(4, 2, 210);
+        is("25 all six", f.fewest(), 63);
     }
 
     private static void daysOfLine() {
@@ -472,6 +483,17 @@ public final class PromisesTest {
         is("29 own, less", e.own(), 2);
         is("31 dealt, less", e.dealt(true), 1);
         is("31 dealt, all have so many", e.dealt(false), 1);
+        // an odd number, of which the last saint fits the first church alone and the first saint none
+        EastNearly f = withChurch(50, 0, 0, 10);
+        f.church(0, 200, 0, 0, 10);
+        f.church(0, 90, 0, 0, 10);
+        f.tell(0, 0, 45);
+        f.tell(1, 0, 0);
+        f.tell(2, 0, 91);
+        is("29 own, none", f.own(), 0);
+        is("30 both fit", f.deals(2), 1);
+        is("30 one fits", f.deals(1), 2);
+        is("30 none fits", f.deals(0), 3);
         is("30 deals", e.deals(-1), BAD);
         is("30 deals", e.deals(11), BAD);
         tenSaints();
@@ -491,6 +513,13 @@ public final class PromisesTest {
         long all = 0;
         for (int k = 0; k <= 10; k++) all += e.deals(k);
         is("30 all deals", all, 3628800);
+        // the saints of the last five fit now too, each its own church
+        for (int i = 5; i < 10; i++) e.tell(i, 0, firstDayAt(e, 50 + 8 * i));
+        is("29 own", e.own(), 10);
+        is("30 one way", e.deals(10), 1);
+        is("30 nine never", e.deals(9), 0);
+        is("31 dealt: 1 of 10!", e.dealt(false), 3628800);
+        for (int i = 5; i < 10; i++) e.tell(i, 0, 90);
         // k of five fixed points, nine other ways: 10! - 5 9! + 10 8! - 10 7! + 5 6! - 5!
         is("30 deals 0", e.deals(0), 3628800 - 5 * 362880 + 10 * 40320 - 10 * 5040 + 5 * 720 - 120);
     }
@@ -560,6 +589,10 @@ public final class PromisesTest {
         e.church(0, 94, 9, 0, 0);
         is("34 always", e.dated(3, 0), 600);
         is("34 always", e.dated(3, 3), 1);
+        EastNearly f = withBook("100+00;101+01;102+00");
+        f.church(0, 90, 0, 0, 0);
+        is("34 all but one", f.dated(0, 0), 599);
+        is("34 spans with one year between", f.dated(0, 3), 2);
         is("34 dated", e.dated(4, 4), UNKNOWN);
         is("34 dated", e.dated(0, 4), BAD);
         is("34 dated", e.dated(0, -1), BAD);
@@ -623,6 +656,9 @@ public final class PromisesTest {
         is("38 why, too far", e.why(0), 4);
         is("37 bends", e.bends(1), UNKNOWN);
         is("38 why", e.why(1), UNKNOWN);
+        EastNearly g = withChurch(70, 0, 100, 110);
+        g.choir(0, 90, 200, 210);
+        is("38 why, true east", g.why(0), 0);
         // the needle reaches the line only in the choir's years; true east explains both
         EastNearly f = withBook("200+10;210+00");
         f.church(0, 90, 0, 100, 110);
@@ -648,6 +684,9 @@ public final class PromisesTest {
         is("39 ahead of 104", e.when(0, 45, 104), 4);
         is("40 never", e.since(0, 45), 111);
         is("40 alike, the least", e.since(0, 0), 0);
+        EastNearly one = withChurch(90, 0, 100, 100);
+        one.tell(0, 0, 182);
+        is("40 a year more", one.since(0, 45), 101);
         is("39 when", e.when(1, 0, 0), UNKNOWN);
         is("39 when", e.when(0, -1, 0), UNKNOWN);
         is("39 when", e.when(0, 364, 0), UNKNOWN);
@@ -705,12 +744,23 @@ public final class PromisesTest {
         is("42 the feast is no church", e.feast(0), 9);
         is("14 the next number", e.church(0, 0, 0, 0, 0), 1);
         is("14 with nothing told", e.about(1, 5), NONE);
+        for (int i = 2; i < 10; i++) e.church(i % 4, 10 * i, i % 10, i, 2 * i);
+        is("41 keep ten", e.keep(1), 10);
+        e.again(0);
+        for (int i = 1; i < 10; i++) e.church(0, 0, 0, 0, 0);
+        is("42 again ten", e.again(1), 10);
+        is("42 the last", e.about(9, 1), 90);
+        is("42 the last", e.about(9, 4), 18);
         // no churches are as much a state to keep as some
         EastNearly f = new EastNearly();
         is("41 none there", f.keep(1), 0);
-        f.church(0, 0, 0, 0, 0);
+        f.church(3, 0, 0, 0, 0);
+        is("41 keep", f.keep(0), 1);
         is("42 none there", f.again(1), 0);
         is("42 none there", f.count(0), 0);
+        f.church(1, 0, 0, 0, 0);
+        f.again(0);
+        is("42 its land too", f.about(0, 0), 3);
     }
 
     private static void counts() {
