@@ -451,6 +451,8 @@ public final class PromiseEdgesTest extends Sentences {
             count(10, "church 0 # 0 0 # = #") + ", keep 0 = 10, " + count(10, "tell # 1 #") + ", choir 9 0 10 10, "
                 + "again 0 = 10, about 9 1 = 9, about 9 4 = 9, about 9 6 = NONE, about 9 8 = NONE, "
                 + "about 0 6 = NONE, church 0 0 0 0 0 = FULL",
+            "keep 1 = 0, church 3 9 9 9 9, keep 0 = 1, again 1 = 0, church 1 1 1 1 1, again 0 = 1, about 0 0 = 3, "
+                + "about 0 1 = 9, about 0 2 = 9, about 0 3 = 9, about 0 4 = 9",
             // read so: what was kept while there were no CHURCHES was kept
             "keep 0 = 0, church 0 0 0 0 0 = 0, again 0 = 0, count 0 = 0, about 0 0 = UNKNOWN");
         says("UNKNOWN;",

@@ -251,6 +251,8 @@ public final class TermsEdgesTest extends Sentences {
             "read 100+10;200-20 = 2, needle 0 = 110, needle 99 = 110, needle 201 = 80, needle 599 = 80",
             "read 599+10 = 1, needle 0 = 110, needle 598 = 110, needle 599 = 110",
             "read 000-10 = 1, needle 0 = 90, needle 1 = 90, needle 599 = 90",
+            "read 000+00;500+40 = 2, read 100+10 = 1, needle 99 = 110, needle 101 = 110, needle 300 = 110, "
+                + "needle 599 = 110",
             "read " + LONGEST + " = 7, needle 599 = 60, needle 598 = 61, needle 5 = 105");
         says("0 without a BOOK",
             "needle 0 = 100, needle 599 = 100, church 0 90 0 0 60 = 0, line 2 0 300 = 90, hits 2 0 = 61",
@@ -367,7 +369,8 @@ public final class TermsEdgesTest extends Sentences {
             "church 0 200 0 0 60 = 0, explain 0 = 0, fewest = 0",
             "church 0 200 0 0 60 = 0, church 0 201 0 0 60 = 1, tell 1 1 201, fewest = 8, tell 0 1 200, fewest = 8",
             "church 0 200 0 0 60 = 0, church 0 90 0 0 60 = 1, fewest = 1, weight 0 0 = 1, fewest = 1",
-            ONE_YEAR + "church 0 100 0 41 101 = 0, fewest = 4");
+            ONE_YEAR + "church 0 100 0 41 101 = 0, fewest = 4",
+            "church 0 90 0 0 0, keep 0 = 1, church 0 200 0 0 0, tell 1 1 200, fewest = 9, again 0 = 1, fewest = 1");
         says("of as many the least number",
             "church 0 90 0 0 0 = 0, explain 0 = 37, fewest = 1",
             "church 0 200 0 0 0 = 0, tell 0 1 200, tell 0 2 200, fewest = 8",
@@ -396,7 +399,16 @@ public final class TermsEdgesTest extends Sentences {
             count(10, "church 0 90 0 0 #") + ", " + count(10, "tell # 0 #") + ", own = 3",
             count(10, "church 0 90 0 0 #") + ", " + count(10, "tell # 0 182 = NONE") + ", own = 10, count 1 = 10",
             "church 0 89 0 100 120, tell 0 0 2, own = 1, church 0 89 0 100 119, tell 1 0 2, own = 1, switched 120, "
-                + "own = 0");
+                + "own = 0",
+            "church 0 90 0 119 130, tell 0 0 2, own = 1, church 0 90 0 120 130, tell 1 0 2, own = 1");
+        says("DEALT ANEW: of all ways to deal these SAINTS' DATES to these CHURCHES",
+            "church 0 90 0 0 0, church 0 50 0 0 0, church 0 60 0 0 0, tell 1 0 91, tell 2 0 69, deals 2 = 1, "
+                + "deals 1 = 0, deals 0 = 1, dealt true = 1, dealt false = 2",
+            "church 0 50 0 0 0, church 0 60 0 0 0, church 0 90 0 0 0, tell 0 0 91, tell 1 0 69, deals 2 = 1, "
+                + "deals 1 = 0, deals 0 = 1, tell 0 0 NONE, deals 1 = 1, deals 0 = 0",
+            // the one date is of the day 2 in the year 119, and of the day 3 in the year 120
+            "church 0 90 0 119 120, church 0 89 0 119 120, tell 0 0 2, tell 1 0 2, own = 2, deals 2 = 2",
+            "church 0 90 0 120 120, church 0 89 0 119 119, tell 0 0 2, tell 1 0 2, own = 0, deals 0 = 2");
         says("(places, not DATES, tell ways apart)",
             "church 0 90 0 0 0, church 0 90 0 0 0, tell 0 0 0, tell 1 0 0, deals 2 = 2, deals 1 = 0, deals 0 = 0",
             "church 0 90 0 0 0, church 0 50 0 0 0, church 0 50 0 0 0, tell 0 0 91, tell 1 0 91, tell 2 0 91, "
@@ -435,6 +447,11 @@ public final class TermsEdgesTest extends Sentences {
             "read 000+00;100+20 = 2, church 0 80 0 50 50, church 0 81 0 50 50, goes = 0",
             "church 0 80 0 0 0, church 0 81 0 50 50, goes = 0, church 0 81 0 50 50, goes = 0",
             "goes = 0, church 0 80 0 0 0, goes = 0");
+        says("BY LUCK: of all ways to deal LINES to CHURCHES",
+            "read 000+00;100+20 = 2, church 0 80 0 0 0, church 0 80 0 50 50, church 0 81 0 100 100, goes = 2, "
+                + "luck true = 1, luck false = 3",
+            "read 000+00;100+20 = 2, church 0 80 0 0 0, church 0 81 0 0 0, church 0 82 0 100 100, goes = 2, "
+                + "luck true = 1, luck false = 3");
         says("the share by which that is as great or greater",
             "read 000+00;100+20 = 2, church 0 80 0 0 0, church 0 81 0 100 100, luck true = 1, luck false = 2",
             "read 000+00;100+20 = 2, church 0 81 0 0 0, church 0 80 0 100 100, luck true = 1, luck false = 1",
@@ -505,6 +522,9 @@ public final class TermsEdgesTest extends Sentences {
             "church 0 200 3 0 0, tell 0 1 213, choir 0 210 1 1, why 0 = 3, choir 0 209 1 1, why 0 = NONE, "
                 + "choir 0 216 1 1, why 0 = 3",
             "church 0 200 9 0 0, tell 0 1 209, choir 0 210 1 1, why 0 = NONE, tell 0 1 210, why 0 = 3",
+            "read 100+00;101+10;102+00;199+00;200+10;201+00 = 6, church 0 100 0 101 161, choir 0 100 200 200, "
+                + "why 0 = NONE, church 0 100 0 41 101, choir 1 100 200 200, why 1 = NONE, church 0 100 0 102 162, "
+                + "choir 2 100 200 200, why 2 = 2",
             "edge 1 5 9, church 1 200 0 0 0, tell 0 0 91, choir 0 59 1 1, why 0 = 1, feast 91, tell 0 0 NONE, "
                 + "why 0 = 5, tell 0 2 59, why 0 = 4");
         says("the least; NONE.",
